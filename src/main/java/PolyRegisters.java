@@ -361,7 +361,12 @@ public final class PolyRegisters {
 
     public int closeIn(int a, int root, int bits) throws IndexOutOfBoundsException, IllegalArgumentException {
         long[] row = rowOf(a);
-        if (root < 0 || degreeOf(row) <= root || countRoots(row) <= root) {
+        // A polynomial has no more roots than its degree: 0 is sorted out here too.
+        if (root < 0 || root >= degreeOf(row)) {
+            throw new IndexOutOfBoundsException();
+        }
+        roots.begin(row);
+        if (root >= roots.countReal()) {
             throw new IndexOutOfBoundsException();
         }
         if (bits < 0 || bits > MOST_BITS) {
@@ -375,16 +380,18 @@ public final class PolyRegisters {
     public int fractionRoots(int a) throws IndexOutOfBoundsException, ArithmeticException {
         long[] row = rowOf(a);
         checkNotZero(row);
-        countRoots(row);
-        return roots.countFractions(ROW);
+        roots.begin(row);
+        roots.countReal();
+        return roots.countFractions(HIGHEST);
     }
 
     public int fractionRoot(int a, int root) throws IndexOutOfBoundsException {
         long[] row = rowOf(a);
-        if (root < 0 || degreeOf(row) <= root) {
+        if (root < 0 || root >= degreeOf(row)) {
             throw new IndexOutOfBoundsException();
         }
-        countRoots(row);
+        roots.begin(row);
+        roots.countReal();
         if (roots.countFractions(root + 1) <= root) {
             throw new IndexOutOfBoundsException();
         }
@@ -531,7 +538,7 @@ public final class PolyRegisters {
         }
     }
 
-    /** Ends a change whose polynomial stands in the result. */
+    // Changes make their polynomial in the result first: the registers of a call may be the same.
     private int keep(int to) {
         keepEarlier();
         copyRow(result, rowOf(to));
@@ -554,7 +561,7 @@ public final class PolyRegisters {
         return toldTop.sign;
     }
 
-    /** Tells a number that is divided so many times by a factor above 0. */
+    /** Tells number / factor^times, where the factor is above 0; taken one by one, factors leave it in lowest terms. */
     private int tellQuotient(Wide number, long factor, int times) {
         toldTop.set(number);
         toldBottom.setLong(1);
@@ -564,12 +571,6 @@ public final class PolyRegisters {
             desk.enlarge(toldBottom, shared == 0 ? factor : factor / shared);
         }
         return toldTop.sign;
-    }
-
-    /** Makes ready for the single real roots of a row that is not 0, and counts them. */
-    private int countRoots(long[] row) {
-        roots.begin(row);
-        return roots.count();
     }
 
     private static int bytesIn(int four) {
@@ -583,6 +584,7 @@ public final class PolyRegisters {
     }
 
     // ---- Rows: the coefficients of a polynomial in a register, by their exponents
+    // (what makes a row and returns a boolean says whether a register may take it)
 
     private static boolean isShort(long number) {
         return number >= -GREATEST && number <= GREATEST;
@@ -628,7 +630,6 @@ public final class PolyRegisters {
         return a.length == b.length;
     }
 
-    /** Says whether all sums are short enough for a register. */
     private static boolean sumRows(long[] a, long[] b, int factor, long[] to) {
         boolean isFitting = true;
         for (int i = 0; i < to.length && i < a.length && i < b.length; i++) {
@@ -742,7 +743,7 @@ public final class PolyRegisters {
             return point >= 0 && point < heights.length ? heights[point] : 0;
         }
 
-        /** The product of the point's distances from the other ones. */
+        /** What the basis of a point has as its value at the point's own place. */
         long weight(int point) {
             long product = 1;
             for (int i = 0; i < points; i++) {
@@ -753,7 +754,7 @@ public final class PolyRegisters {
             return product;
         }
 
-        // Six places from -9 to 9 keep this below 10^15: the distances are at most 18, and few share a great prime power.
+        // The weights' least common multiple stays below 10^15, since all distances are at most 18 (NOTES.md).
         long commonWeight() {
             long multiple = 1;
             for (int i = 0; i < points; i++) {
@@ -764,7 +765,7 @@ public final class PolyRegisters {
             return multiple < 0 ? -multiple : multiple;
         }
 
-        /** Puts down the product of x less place for all other points. */
+        /** A polynomial that is 0 at the places of all other points. */
         void putBasis(int point, long[] to) {
             clearRow(to);
             to[0] = 1;
@@ -778,7 +779,6 @@ public final class PolyRegisters {
         }
     }
 
-    /** Bytes one after the other. */
     private static final class Text {
         private final byte[] bytes;
         int length;
@@ -886,7 +886,7 @@ public final class PolyRegisters {
         }
 
         void set(Wide other) {
-            size = Math.min(other.size, limbs.length);
+            size = Math.min(other.size, Math.min(limbs.length, other.limbs.length));
             for (int i = 0; i < size; i++) {
                 limbs[i] = other.limbs[i];
             }
@@ -945,7 +945,7 @@ public final class PolyRegisters {
 
         private void gather(Wide other) {
             int mine = size;
-            int others = other.size;
+            int others = Math.min(other.size, other.limbs.length);
             int carry = 0;
             for (int i = 0; i < limbs.length && (i < mine || i < others || carry > 0); i++) {
                 int sum = carry + (i < mine ? limbs[i] : 0) + (i < others ? other.limbs[i] : 0);
@@ -956,8 +956,8 @@ public final class PolyRegisters {
         }
 
         private void differ(Wide great, Wide small) {
-            int all = Math.min(great.size, limbs.length);
-            int few = small.size;
+            int all = Math.min(great.size, Math.min(limbs.length, great.limbs.length));
+            int few = Math.min(small.size, small.limbs.length);
             int used = 0;
             int borrow = 0;
             for (int i = 0; i < all; i++) {
@@ -969,16 +969,18 @@ public final class PolyRegisters {
             size = used;
         }
 
-        /** Both factors are other numbers than this one. */
+        // The factors are still read while limbs are written: they must be other numbers.
         void setProduct(Wide a, Wide b) {
-            int columns = Math.min(a.size + b.size, limbs.length);
+            int many = Math.min(a.size, a.limbs.length);
+            int others = Math.min(b.size, b.limbs.length);
+            int columns = Math.min(many + others, limbs.length);
             long carry = 0;
             size = 0;
             for (int k = 0; k < columns; k++) {
                 long low = carry;
                 long high = 0;
-                int last = Math.min(k, a.size - 1);
-                for (int i = Math.max(0, k - b.size + 1); i <= last; i++) {
+                int last = Math.min(k, many - 1);
+                for (int i = Math.max(0, k - others + 1); i <= last; i++) {
                     low += (long) a.limbs[i] * b.limbs[k - i];
                     if (low >= GATHERED) {
                         low -= GATHERED;
@@ -992,7 +994,7 @@ public final class PolyRegisters {
             sign = size == 0 ? 0 : a.sign * b.sign;
         }
 
-        /** Multiplies the size by a number from 1 to the base. */
+        // The factor is at most the base, so that a limb's product and the carry fit into a long.
         void scale(long factor) {
             long carry = 0;
             for (int i = 0; i < limbs.length && (i < size || carry > 0); i++) {
@@ -1003,7 +1005,7 @@ public final class PolyRegisters {
             }
         }
 
-        /** Divides the size by a number from 1 to the base, without the remainder, and drops limbs that are 0 on top. */
+        // The factor is at most the base here too. Limbs that are 0 on top are dropped, also by the factor 1.
         void cut(long factor) {
             long rest = 0;
             int used = 0;
@@ -1038,8 +1040,8 @@ public final class PolyRegisters {
         /** The lowest 64 bits as a two's complement: the number itself, if it has at most 18 digits. */
         long lowBits() {
             long sum = 0;
-            for (int i = size - 1; i >= 0; i--) {
-                sum = sum * BASE + limbAt(i);
+            for (int i = size - 1; i >= 0 && i < limbs.length; i--) {
+                sum = sum * BASE + limbs[i];
             }
             return sign < 0 ? -sum : sum;
         }
@@ -1058,12 +1060,13 @@ public final class PolyRegisters {
         }
 
         void prepare(Wide number) {
-            size = Math.min(number.size, limbs.length);
+            int[] from = number.limbs;
+            size = Math.min(number.size, Math.min(limbs.length, from.length));
             sign = number.sign;
-            factor = Wide.BASE / (number.limbAt(size - 1) + 1L);
+            factor = size > 0 && from[size - 1] > 0 ? Wide.BASE / (from[size - 1] + 1L) : 1;
             long carry = 0;
             for (int i = 0; i < size; i++) {
-                long limb = number.limbAt(i) * factor + carry;
+                long limb = from[i] * factor + carry;
                 limbs[i] = (int) (limb % Wide.BASE);
                 carry = limb / Wide.BASE;
             }
@@ -1089,7 +1092,7 @@ public final class PolyRegisters {
             divided.cut(factor);
         }
 
-        /** The quotient's limb whose product begins below the top limb, or 1 more. */
+        /** A limb of the quotient, or 1 more (Knuth, Algorithm D in 4.3.1). */
         private long guess(Wide divided, int top) {
             int[] from = divided.limbs;
             if (top < 1 || top > from.length || size < 1 || size > limbs.length || limbs[size - 1] < 1) {
@@ -1188,7 +1191,6 @@ public final class PolyRegisters {
             settle();
         }
 
-        /** Finds the degree after the coefficients were changed. */
         void settle() {
             degree = -1;
             for (int i = 0; i < parts.length; i++) {
@@ -1202,7 +1204,6 @@ public final class PolyRegisters {
             }
         }
 
-        /** Says whether the polynomial fits into a register; if not, the row stays as it is. */
         boolean store(long[] to) {
             for (int i = 0; i < parts.length; i++) {
                 // Two limbs are the 18 digits of a register.
@@ -1264,7 +1265,7 @@ public final class PolyRegisters {
             return left.store(to);
         }
 
-        /** The factors are others than the product; says whether its degree is not too high for its place. */
+        // The product's place is cleared first: the factors must stand elsewhere. A degree above it is refused.
         private boolean times(Poly to, Poly a, Poly b) {
             to.clear();
             if (a.degree >= 0 && b.degree >= 0 && a.degree + b.degree > to.highest()) {
@@ -1303,7 +1304,7 @@ public final class PolyRegisters {
             return left.store(quotient) && rest.store(remainder);
         }
 
-        /** Takes the term on top away: multiplies by the leading coefficient, and subtracts so many times by * x^shift. */
+        // One step of a division. All is multiplied by the leading coefficient first, so that no fractions come up.
         void eliminate(Poly from, Poly by, int shift) {
             Wide top = from.at(by.degree + shift);
             Wide lead = by.lead();
@@ -1328,7 +1329,7 @@ public final class PolyRegisters {
             return divideExactly(right, left);
         }
 
-        /** Divides the rest; says whether the division, with whole coefficients, leaves nothing. */
+        /** Divides the rest without multiplying it; false as soon as a fraction comes up, or if something is left. */
         boolean divideExactly(Poly by, Poly quotient) {
             quotient.clear();
             divisor.prepare(by.lead());
@@ -1349,7 +1350,7 @@ public final class PolyRegisters {
             return rest.degree < 0;
         }
 
-        /** Divides all coefficients so many times by a number that divides them. */
+        // One division after the other keeps the divisor short: powers of it would be longer than its room.
         void divideParts(Poly poly, Wide by, int times) {
             divisor.prepare(by);
             for (int i = 0; i <= poly.degree; i++) {
@@ -1361,7 +1362,6 @@ public final class PolyRegisters {
             }
         }
 
-        /** Adds factor times a row to the left polynomial. */
         void gather(long factor, long[] row) {
             small.setLong(factor);
             for (int i = 0; i < row.length; i++) {
@@ -1398,7 +1398,6 @@ public final class PolyRegisters {
             number.set(one);
         }
 
-        /** Divides by a number that divides it. */
         void lessen(Wide number, long by) {
             small.setLong(by);
             divisor.prepare(small);
@@ -1406,7 +1405,7 @@ public final class PolyRegisters {
             number.set(one);
         }
 
-        /** Multiplies the roots by a number above 0. */
+        /** Multiplies the roots by the scale: a fraction with this bottom becomes a whole place. */
         void stretch(Poly poly, long scale) {
             small.setLong(1);
             for (int i = poly.degree - 1; i >= 0 && scale != 1; i--) {
@@ -1438,7 +1437,7 @@ public final class PolyRegisters {
         }
     }
 
-    /** The row of Sturm of a polynomial; each polynomial is taken times a number above 0 that keeps it whole and short. */
+    /** The row of Sturm; each of its polynomials is taken times a number above 0 that keeps it whole and short. */
     private static final class Sturm {
         private final Desk desk;
         final Poly[] row = new Poly[ROW + 1];
@@ -1455,14 +1454,13 @@ public final class PolyRegisters {
             }
         }
 
-        /** Makes the row of a polynomial that is divided by a number that divides it. */
+        // The divisor is a content: shorter coefficients make shorter remainders.
         void begin(long[] first, long divisor) {
             row[0].load(first, divisor);
             putDerivative();
             goOn();
         }
 
-        /** Makes the second polynomial of the row from the first one. */
         void putDerivative() {
             Poly derived = row[1];
             derived.clear();
@@ -1473,7 +1471,7 @@ public final class PolyRegisters {
             derived.settle();
         }
 
-        /** Goes on from the first two polynomials; the second one's degree must not be the greater one. */
+        // The first two polynomials stand there; the degree of the second one is not the greater one.
         void goOn() {
             length = row[1].degree < 0 ? 1 : 2;
             lead.setLong(1);
@@ -1584,7 +1582,6 @@ public final class PolyRegisters {
             unit.setLong(1);
         }
 
-        /** Makes the greatest common divisor of two rows, if it fits into a register. */
         boolean shareRows(long[] a, long[] b, long[] to) {
             long[] high = degreeOf(a) >= degreeOf(b) ? a : b;
             long[] deep = degreeOf(a) >= degreeOf(b) ? b : a;
@@ -1635,8 +1632,7 @@ public final class PolyRegisters {
             return sturm.row[0].store(to);
         }
 
-        /** Counts the real roots of the simple part, and makes ready for locating them. */
-        int count() {
+        int countReal() {
             if (!isSimple) {
                 sturm.putDerivative();
                 sturm.goOn();
@@ -1646,7 +1642,7 @@ public final class PolyRegisters {
             return count;
         }
 
-        /** Takes all roots times a number above 0, and finds a power of 2 as a bound for them. */
+        // The bound is a power of 2, so that steps can be halved down to 1.
         void stretch(long by) {
             scale = by;
             Poly simple = sturm.row[0];
@@ -1709,7 +1705,7 @@ public final class PolyRegisters {
             }
         }
 
-        /** Counts the roots that are fractions, up to the wanted number; the last one stands as low divided by the scale. */
+        /** Stops at the wanted number; the last root that was found is low divided by the scale. */
         int countFractions(int wanted) {
             // Times the leading coefficient all of them are whole numbers.
             stretch(sturm.row[0].lead().lowBits());
@@ -1731,10 +1727,10 @@ public final class PolyRegisters {
         private int place;
         int error = NONE;
         boolean isTooGreat;
-        // A row for each depth of parentheses.
+        // A row for each depth of parentheses: sums and products wait there for the factors inside.
         private final long[][] sums = new long[MOST_OPEN + 1][ROW];
         private final long[][] products = new long[MOST_OPEN + 1][ROW];
-        private final long[][] factors = new long[MOST_OPEN + 1][ROW];
+        private final long[] factor = new long[ROW];
 
         Reader(Desk desk, Text text) {
             this.desk = desk;
@@ -1748,7 +1744,6 @@ public final class PolyRegisters {
             error = NONE;
             isTooGreat = false;
             readSum(0);
-            skipBlanks();
             if (error == NONE && place < text.length) {
                 error = place;
             }
@@ -1766,24 +1761,23 @@ public final class PolyRegisters {
         private void readSum(int depth) {
             long[] sum = rowAt(sums, depth);
             clearRow(sum);
-            int factor = takes('-') ? -1 : 1;
+            int sign = takes('-') ? -1 : 1;
             for (int i = 0; i <= text.length; i++) {
                 readProduct(depth);
                 if (error != NONE) {
                     return;
                 }
-                check(sumRows(sum, rowAt(products, depth), factor, sum), sum);
+                check(sumRows(sum, rowAt(products, depth), sign, sum), sum);
                 boolean isPlus = takes('+');
                 if (!isPlus && !takes('-')) {
                     return;
                 }
-                factor = isPlus ? 1 : -1;
+                sign = isPlus ? 1 : -1;
             }
         }
 
         private void readProduct(int depth) {
             long[] product = rowAt(products, depth);
-            long[] factor = rowAt(factors, depth);
             clearRow(product);
             product[0] = 1;
             for (int i = 0; i <= text.length; i++) {
@@ -1809,9 +1803,8 @@ public final class PolyRegisters {
             }
         }
 
-        /** Puts a number, x or a sum in parentheses into its row, and returns the exponent behind it, or NONE. */
+        /** Leaves a number, x or a sum in parentheses as the factor, and returns the exponent behind it, or NONE. */
         private int readFactor(int depth) {
-            long[] factor = rowAt(factors, depth);
             clearRow(factor);
             skipBlanks();
             if (isDigit(text.at(place))) {
@@ -1869,7 +1862,6 @@ public final class PolyRegisters {
             }
         }
 
-        /** Takes the next token if it is this one. */
         private boolean takes(char token) {
             skipBlanks();
             if (text.at(place) != token) {

@@ -218,7 +218,7 @@ public final class RunsTest {
             case 11: case 12: call("rootsBetween", a, top(), bottom(), top(), bottom()); break;
             case 13: call("sturmLength", a); break;
             case 14: call("changes", a, top(), bottom()); break;
-            case 15: case 16: call("closeIn", a, any(8) - 1, any(10) == 0 ? pick(-1, 21) : any(21)); break;
+            case 15: case 16: call("closeIn", a, any(12) == 0 ? -1 : any(4), any(10) == 0 ? pick(-1, 21) : any(21)); break;
             case 17: call("fractionRoots", a); break;
             case 18: call("fractionRoot", a, any(7) - 1); break;
             case 19: call("rootsBy", a, prime()); break;
