@@ -1220,7 +1220,7 @@ public final class PolyRegisters {
 
     /** Sums, products and divisions of polynomials, with the room that they need on the way. */
     private static final class Desk {
-        // The longest coefficients on the way to a quotient, a power or a value have 260 digits.
+        // The longest coefficients on the way to a quotient or a power have 260 digits.
         final Poly left = new Poly(ROW, 30, 0);
         final Poly right = new Poly(ROW, 30, 0);
         // On the way to a row of Sturm a coefficient has up to 2050 digits (NOTES.md tells why).
