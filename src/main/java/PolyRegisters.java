@@ -228,7 +228,7 @@ public final class PolyRegisters {
         }
         nextEarlier = (nextEarlier + MOST_UNDONE - 1) % MOST_UNDONE;
         undoable--;
-        bench.copy(earlier[nextEarlier]);
+        bench.copy(earlierBench());
         return undoable;
     }
 
@@ -545,8 +545,12 @@ public final class PolyRegisters {
         return degreeOf(result);
     }
 
+    private Bench earlierBench() {
+        return earlier[nextEarlier >= 0 && nextEarlier < earlier.length ? nextEarlier : 0];
+    }
+
     private void keepEarlier() {
-        earlier[nextEarlier].copy(bench);
+        earlierBench().copy(bench);
         nextEarlier = (nextEarlier + 1) % MOST_UNDONE;
         undoable = Math.min(undoable + 1, MOST_UNDONE);
     }

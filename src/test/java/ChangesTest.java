@@ -470,29 +470,30 @@ public final class ChangesTest {
     private static void undo() {
         PolyRegisters x = new PolyRegisters();
         String[] states = new String[11];
-        states[0] = Check.state(x);
+        states[0] = Twins.state(x);
         Runnable[] changes = {
             () -> x.add(3, 0, 1), () -> x.addPoint(1, 2), () -> x.divide(0, 1, 1, 0), () -> x.multiply(5, 3, 3),
             () -> x.clearPoints(), () -> x.setTerm(5, 0, 9), () -> x.residue(5, 5, 5), () -> Check.read(x, 4, "x^5"),
             () -> x.interpolate(2), () -> x.add(0, 0, 0)};
         for (int i = 0; i < changes.length; i++) {
             changes[i].run();
-            states[i + 1] = Check.state(x);
+            states[i + 1] = Twins.state(x);
         }
         Check.put(x, "x^2");
-        x.value(4, 3, 1);
         for (int i = 0; i < 8; i++) {
             int left = 7 - i;
+            x.value(1, 7, 2);
+            String told = Check.told(x, 1);
             Check.due("18: undo", left, x::undo);
-            Check.due("18: state", states[left + 2], () -> Check.state(x));
+            Check.due("18: the told number stays", told, () -> Check.told(x, 1));
+            Check.due("18: state", states[left + 2], () -> Twins.state(x));
         }
         Check.due("18: no ninth", PolyRegisters.NONE, x::undo);
-        Check.due("18: state", states[2], () -> Check.state(x));
+        Check.due("18: state", states[2], () -> Twins.state(x));
         Check.due("18: the buffer stays", 3, x::clearText);
-        Check.due("18: the told number stays", 243L, () -> x.low(false));
         Check.due("18: a change after undo", 2, () -> x.add(0, 0, 0));
         Check.due("18: undo it", 0, x::undo);
-        Check.due("18: state", states[2], () -> Check.state(x));
+        Check.due("18: state", states[2], () -> Twins.state(x));
     }
 
     /** Calls that throw are no changes. */

@@ -50,6 +50,14 @@ final class Check {
         return length;
     }
 
+    static int bytesIn(int four) {
+        int count = 0;
+        for (int i = 0; i < 4; i++) {
+            count += (four >>> 8 * i & 255) != 0 ? 1 : 0;
+        }
+        return count;
+    }
+
     static int read(PolyRegisters x, int to, String text) {
         x.clearText();
         put(x, text);

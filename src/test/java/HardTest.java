@@ -33,6 +33,20 @@ public final class HardTest {
         model = new Model();
     }
 
+    /** Goes on with a new object, since one is used for at most 512 calls. */
+    private static void goOn() {
+        mine = new PolyRegisters();
+        for (int a = 0; a < 6; a++) {
+            for (int e = 0; e <= 12; e++) {
+                if (model.term(a, e) != 0 || a < 3) {
+                    mine.setTerm(a, e, model.term(a, e));
+                }
+            }
+        }
+        mine.content(0);
+        model.content(0);
+    }
+
     private static int any(int bound) {
         seed = seed * 6364136223846793005L + 1442695040888963407L;
         return (int) ((seed >>> 33) % bound);
@@ -72,6 +86,7 @@ public final class HardTest {
 
     /** All questions about roots of a register. */
     private static void roots(String what, int a) {
+        goOn();
         same(what + ": sturmLength", () -> mine.sturmLength(a), () -> model.sturmLength(a));
         same(what + ": realRoots", () -> mine.realRoots(a), () -> model.realRoots(a));
         for (int top : new int[] {-1000, -999, -1, 0, 1, 7, 999, 1000}) {
@@ -84,10 +99,14 @@ public final class HardTest {
         for (int i = 0; i <= count; i++) {
             int root = i;
             int bits = any(21);
+            if (i % 6 == 5 && i < count) {
+                goOn();
+            }
             same(what + ": closeIn", () -> mine.closeIn(a, root, bits), () -> model.closeIn(a, root, bits));
             sameTold(what + ": closeIn");
         }
         same(what + ": fractionRoots", () -> mine.fractionRoots(a), () -> model.fractionRoots(a));
+        goOn();
         int fractions = model.fractionRoots(a);
         for (int i = 0; i <= fractions; i++) {
             int root = i;
@@ -105,6 +124,7 @@ public final class HardTest {
             set(1, i, round < 4 ? GREATEST * (any(2) == 0 ? 1 : -1) : any());
         }
         roots("dense", 0);
+        goOn();
         same("dense: gcd", () -> mine.gcd(2, 0, 1), () -> model.gcd(2, 0, 1));
         sameRow("dense: gcd", 2);
         same("dense: value", () -> mine.value(0, 1000, 999), () -> model.value(0, 1000, 999));

@@ -513,6 +513,11 @@ final class Model {
         return tell(at(p, exponent), ONE);
     }
 
+    /** The coefficient of a register that is there; tells nothing. */
+    long term(int a, int exponent) {
+        return at(rows[a], exponent).longValueExact();
+    }
+
     int content(int a) {
         return tell(contentOf(row(a)), ONE);
     }
@@ -688,6 +693,11 @@ final class Model {
         }
         written = s.length() == 0 ? "0" : s.toString();
         return written.length();
+    }
+
+    /** What was written last. */
+    String text() {
+        return written;
     }
 
     int writtenAt(int index) {

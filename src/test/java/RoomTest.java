@@ -12,6 +12,8 @@ public final class RoomTest {
     // 512 new objects would still leave room in 600,000 objects and 7.3 million fields and elements.
     private static final int MOST_OBJECTS = 1100;
     private static final int MOST_ELEMENTS = 14000;
+    // Of some 50 calls each: an object is used for at most 512 calls.
+    private static final int ROUNDS = 9;
 
     private static int objects;
     private static long elements;
@@ -23,21 +25,24 @@ public final class RoomTest {
         Check.due("fields and elements of a new object, here " + elements, true, () -> elements <= MOST_ELEMENTS);
         int before = objects;
         long elementsBefore = elements;
-        for (int i = 0; i < 20; i++) {
+        for (int i = 0; i < ROUNDS; i++) {
             calls(x);
         }
         count(x);
         Check.due("objects later", before, () -> objects);
         Check.due("fields and elements later", elementsBefore, () -> elements);
+        PolyRegisters y = new PolyRegisters();
+        PolyRegisters z = new PolyRegisters();
         com.sun.management.ThreadMXBean meter = (com.sun.management.ThreadMXBean) ManagementFactory.getThreadMXBean();
         meter.getThreadAllocatedBytes(Thread.currentThread().getId());
         long made = meter.getThreadAllocatedBytes(Thread.currentThread().getId());
-        for (int i = 0; i < 20; i++) {
-            calls(x);
+        for (int i = 0; i < ROUNDS; i++) {
+            calls(y);
+            calls(z);
         }
         long bytes = meter.getThreadAllocatedBytes(Thread.currentThread().getId()) - made;
-        // The meter itself takes some; 20 times 50 calls with an object each would take 16,000 bytes and more.
-        Check.due("bytes that 1000 calls make, here " + bytes, true, () -> bytes < 4000);
+        // The meter itself takes some; 18 times 50 calls with an object each would take 14,400 bytes and more.
+        Check.due("bytes that 900 calls make, here " + bytes, true, () -> bytes < 4000);
         Check.end();
     }
 
