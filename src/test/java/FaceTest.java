@@ -26,6 +26,15 @@ public final class FaceTest {
         "int append(int, int, int, int, int)", "int clearText()", "int errorPosition()", "int write(int)", "int writtenAt(int)",
         "double meanTerms()", "float usedShare()", "int errors()"};
 
+    // I: index, A: argument, R: arithmetic, S: state, N: no such element; in the document's order.
+    private static final String[] THROWN = {
+        "add IS", "subtract IS", "multiply IS", "power IAS", "derive IS", "substitute IS", "divide IARS", "gcd IS", "primitive I",
+        "simple IRS", "residue IA", "setTerm IAS", "read IAS", "addPoint AS", "clearPoints ", "interpolate IS", "undo ", "degree I",
+        "terms I", "exponent I", "coefficient IA", "content I", "value IA", "divides I", "areSame I", "agreements I", "digits ",
+        "digit I", "low ", "realRoots IR", "rootsBetween IARS", "sturmLength IR", "changes IAR", "closeIn IA", "fractionRoots IR",
+        "fractionRoot I", "rootsBy IA", "rootBy IAN", "pointCount ", "append S", "clearText ", "errorPosition ", "write I",
+        "writtenAt I", "meanTerms ", "usedShare ", "errors "};
+
     public static void main(String[] args) throws IOException {
         face();
         names();
@@ -43,11 +52,37 @@ public final class FaceTest {
             }
         }
         Check.due("the methods", new TreeSet<>(Arrays.asList(FACE)).toString(), found::toString);
+        Check.due("the exceptions", new TreeSet<>(Arrays.asList(THROWN)).toString(), () -> thrown().toString());
         Check.due("public and final", Modifier.PUBLIC | Modifier.FINAL, PolyRegisters.class::getModifiers);
         Constructor<?>[] all = PolyRegisters.class.getDeclaredConstructors();
         Check.due("one constructor", true, () -> all.length == 1 && Modifier.isPublic(all[0].getModifiers()) && all[0].getParameterCount() == 0);
         for (Field f : PolyRegisters.class.getDeclaredFields()) {
             Check.due("field " + f.getName(), f.getName().equals("NONE"), () -> !Modifier.isPrivate(f.getModifiers()));
+        }
+    }
+
+    private static Set<String> thrown() {
+        Set<String> found = new TreeSet<>();
+        for (Method m : PolyRegisters.class.getDeclaredMethods()) {
+            if (Modifier.isPublic(m.getModifiers())) {
+                StringBuilder line = new StringBuilder(m.getName()).append(' ');
+                for (Class<?> type : m.getExceptionTypes()) {
+                    line.append(letter(type));
+                }
+                found.add(line.toString());
+            }
+        }
+        return found;
+    }
+
+    private static char letter(Class<?> exception) {
+        switch (exception.getSimpleName()) {
+            case "IndexOutOfBoundsException": return 'I';
+            case "IllegalArgumentException": return 'A';
+            case "ArithmeticException": return 'R';
+            case "IllegalStateException": return 'S';
+            case "NoSuchElementException": return 'N';
+            default: return '?';
         }
     }
 

@@ -15,6 +15,7 @@ public final class TermsTest {
         bits();
         knownRoots();
         squareRoots();
+        rootsNearWholeNumbers();
         manyRoots();
         rowsOfSturm();
         primes();
@@ -384,6 +385,29 @@ public final class TermsTest {
             Check.due("32: to -" + f[0] + "/" + f[1], isBelow ? 1 : 0, () -> x.rootsBetween(0, -2, 1, -f[0], f[1]));
             Check.due("34: at " + f[0] + "/" + f[1], isBelow ? 1 : 0, () -> x.changes(0, f[0], f[1]));
             Check.due("34: at -" + f[0] + "/" + f[1], isBelow ? 1 : 2, () -> x.changes(0, -f[0], f[1]));
+        }
+    }
+
+    /** Some 10^-198 beside a whole number or a half: nothing but its side may count. */
+    private static void rootsNearWholeNumbers() {
+        String[] texts = {"x^12 - " + NINES + "*x^11 + 1", "x^12 - " + NINES + "*x^11 - 1", "x^12 + " + NINES + "*x^11 + 1",
+            "x^12 + " + NINES + "*x^11 - 1", "2*x^12 - " + NINES + "*x^11 + 1", "2*x^12 - " + NINES + "*x^11 - 1"};
+        int[] roots = {1, 1, 0, 0, 1, 1};
+        BigInteger great = new BigInteger(NINES);
+        for (int i = 0; i < texts.length; i++) {
+            PolyRegisters x = with(texts[i]);
+            int root = roots[i];
+            boolean isBelow = i == 0 || i == 3 || i == 4;
+            BigInteger whole = i == 2 || i == 3 ? great.negate() : great;
+            Check.due("31: " + texts[i], 2, () -> x.realRoots(0));
+            Check.due("36: " + texts[i], 0, () -> x.fractionRoots(0));
+            Check.due("37: " + texts[i], Check.INDEX, () -> x.fractionRoot(0, 0));
+            Check.due("35: no more of " + texts[i], Check.INDEX, () -> x.closeIn(0, 2, 0));
+            for (int bits = i < 4 ? 0 : 1; bits <= 20; bits++) {
+                int power = bits;
+                BigInteger floor = whole.shiftLeft(i < 4 ? bits : bits - 1).subtract(isBelow ? BigInteger.ONE : BigInteger.ZERO);
+                told("35: " + texts[i], with(texts[i]), floor.signum(), floor + "/1", y -> y.closeIn(0, root, power));
+            }
         }
     }
 
